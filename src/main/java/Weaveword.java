@@ -50,24 +50,18 @@ public final class Weaveword {
     /** What no module gives: a part is to be expanded first. */
     private static final int WAIT = -2;
 
-    private final Title[] titles = new Title[TITLES];
-    private final SmallModule[] modules = new SmallModule[MODULES];
+    private final Expander expander = new Expander();
+    private final Title[] titles = expander.titles;
+    private final SmallModule[] modules = expander.modules;
     private final Text draft = new Text(MOST_TOKENS);
     private final Text meant = new Text(2 * MOST_TOKENS);
     private final Text merged = new Text(3 * MOST_TOKENS);
-    private final Expander expander = new Expander(titles, modules);
     private int clock = 0;
     private int versionsMade = 0;
     private int approvalsMade = 0;
     private int actingRank = 0;
 
     public Weaveword() {
-        for (int i = 0; i < titles.length; i++) {
-            titles[i] = new Title();
-        }
-        for (int i = 0; i < modules.length; i++) {
-            modules[i] = new SmallModule();
-        }
     }
 
     // ---- tokens and edits
@@ -1144,13 +1138,13 @@ public final class Weaveword {
     }
 
     /**
-     * Expands texts. It keeps the runs that are open itself, since arguments within arguments of 40 calls
+     * Holds what texts are expanded from, and expands them. It keeps the runs that are open itself, since arguments within arguments of 40 calls
      * would go deeper than methods may call one another: what needs a part lets it be run first, and is then
      * come to again, with the row of the part there.
      */
     private static final class Expander {
-        private final Title[] titles;
-        private final SmallModule[] modules;
+        private final Title[] titles = new Title[TITLES];
+        private final SmallModule[] modules = new SmallModule[MODULES];
         private final Frame[] frames = new Frame[MOST_CALLS + 1];
         private final Run[] runs = new Run[MOST_RUNS];
         private final Row nothing = new Row();
@@ -1165,9 +1159,13 @@ public final class Weaveword {
         private int parts = 0;
         private int asked = NONE;
 
-        private Expander(Title[] titles, SmallModule[] modules) {
-            this.titles = titles;
-            this.modules = modules;
+        private Expander() {
+            for (int i = 0; i < titles.length; i++) {
+                titles[i] = new Title();
+            }
+            for (int i = 0; i < modules.length; i++) {
+                modules[i] = new SmallModule();
+            }
             for (int i = 0; i < frames.length; i++) {
                 frames[i] = new Frame();
             }
