@@ -1138,9 +1138,9 @@ public final class Weaveword {
     }
 
     /**
-     * Holds what texts are expanded from, and expands them. It keeps the runs that are open itself, since arguments within arguments of 40 calls
-     * would go deeper than methods may call one another: what needs a part lets it be run first, and is then
-     * come to again, with the row of the part there.
+     * Holds what texts are expanded from, and expands them. It keeps the runs that are open itself, since arguments
+     * within arguments of 40 calls would go deeper than methods may call one another: what needs a part lets it be
+     * run first, and is then come to again, with the row of the part there.
      */
     private static final class Expander {
         private final Title[] titles = new Title[TITLES];

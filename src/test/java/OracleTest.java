@@ -11,6 +11,9 @@ public final class OracleTest {
     private static final int TOKEN = 0, WIPE = 1, ACT = 2, PROTECT = 3, CREATE = 4, EDIT = 5, UNDO = 6, BRING_IN = 7,
         MOVE = 8, MOVE_TREE = 9, APPROVE = 10, TRANSLATE = 11, INSTRUCT = 12, EMPTY = 13, RANK = 14, WORK = 15, READ = 16;
 
+    private static final int[] WILD = {Integer.MIN_VALUE, Integer.MIN_VALUE + 1, -1000, -32, -2, -1, 0, 0, 0, 1, 1, 1, 2, 2, 3, 4, 5, 6, 7, 8, 9,
+        13, 14, 15, 16, 23, 24, 30, 31, 32, 33, 63, 64, 99, 100, 119, 120, 149, 150, 511, 512, 999, 1000, 65536, Integer.MAX_VALUE - 1, Integer.MAX_VALUE};
+
     private final Random random;
     private final int seed;
     private final Weaveword wiki = new Weaveword();
@@ -52,6 +55,9 @@ public final class OracleTest {
     private void run(int most) {
         while (calls < most && !failed) {
             step();
+            if (random.nextInt(20) == 0) {
+                wild();
+            }
             if (random.nextInt(40) == 0) {
                 compareAll();
             }
@@ -376,6 +382,11 @@ public final class OracleTest {
         for (int i = 0; i < opened; i++) {
             row.add(of(7, 0));
         }
+    }
+
+    /** Any call, with numbers at and far behind the bounds. */
+    private void wild() {
+        call(random.nextInt(NAMES.length), WILD[random.nextInt(WILD.length)], WILD[random.nextInt(WILD.length)], WILD[random.nextInt(WILD.length)]);
     }
 
     private int step() {
